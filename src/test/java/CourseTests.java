@@ -18,6 +18,7 @@ final class CourseTests {
         draftOnStraight();
         laneIsTaken();
         nearLimits();
+        asFarAhead();
         nest();
         nestIsInNobodysWay();
         arrival();
@@ -262,6 +263,30 @@ final class CourseTests {
             r.pass(1);
             Check.due("2 is " + off + " feet behind 1", r.laneOf(1), off <= 3 ? 0 : 1);
         }
+    }
+
+    /**
+     * At the end the sparrows 0 and 2 have left their nests in one second, in one lane; the one
+     * of the lower number counts as the next one ahead of sparrow 1, and that is its partner.
+     */
+    private static void asFarAhead() {
+        SparrowRace r = Races.with(25, 619, 1, 31, 968, 1, 24, 853, 0, 23, 897, 0);
+        r.pair(1, 0);
+        r.setLaps(9);
+        r.setLimit(3, 8);
+        r.begin();
+        r.pass(18);
+        int[] thenCalled = {0, 1, -1, 1, 2, -1, 0, -1, 2, 0, 1};
+        int[] thenPass = {0, 14, 15, 2, 1, 23, 13, 13, 14, 0, 1};
+        for (int i = 0; i < thenPass.length; i++) {
+            if (thenCalled[i] >= 0) {
+                r.callIn(thenCalled[i]);
+            }
+            if (thenPass[i] > 0) {
+                r.pass(thenPass[i]);
+            }
+        }
+        Check.due("1 flies 2 feet further", r.flown(1), 1999);
     }
 
     private static void nest() {

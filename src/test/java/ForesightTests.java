@@ -112,6 +112,13 @@ final class ForesightTests {
                 : r.flownWithPace(1, pace) <= r.flownWithPace(1, best);
             Check.due("bestPace against " + pace, fits, true);
         }
+        SparrowRace most = Races.with(30, 951, 0);
+        Races.type(most, "c0=14;c1=16;c2=13;c3=11");
+        most.follow();
+        most.setLaps(9);
+        most.begin();
+        most.callIn(0);
+        Check.due("no pace is too much for one that rests soon", most.bestPace(0), 40);
         SparrowRace one = Races.with(40, 999, 0, 40, 999, 1);
         one.setLaps(1);
         one.begin();

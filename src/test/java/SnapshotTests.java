@@ -6,6 +6,7 @@ final class SnapshotTests {
     static void run() {
         keep();
         goBack();
+        anotherInItsPlace();
         undo();
         savedStates();
     }
@@ -60,6 +61,20 @@ final class SnapshotTests {
         r.begin();
         Check.due("with its own strength", r.strengthOf(1), 100);
         Check.badState("and no partner", r, () -> r.partnerOf(1));
+    }
+
+    private static void anotherInItsPlace() {
+        SparrowRace r = Races.with(20, 500, 0);
+        r.keep(0);
+        r.undo();
+        r.enter(30, 100, 1);
+        r.goBack(0);
+        r.begin();
+        Check.due("the kept one starts", r.strengthOf(0) + " " + r.laneOf(0) + " " + r.paceOf(0), "500 0 20");
+        r.undo();
+        r.undo();
+        r.begin();
+        Check.due("the other one starts", r.strengthOf(0) + " " + r.laneOf(0) + " " + r.paceOf(0), "100 1 30");
     }
 
     private static void undo() {

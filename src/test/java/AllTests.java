@@ -11,6 +11,13 @@ public final class AllTests {
         LookTests.run();
         ForesightTests.run();
         AccountTests.run();
+        CallEdges.run();
+        SecondEdges.run();
+        TextEdges.run();
+        SnapshotEdges.run();
+        LookEdges.run();
+        ForesightEdges.run();
+        AccountEdges.run();
         ModelTest.run();
         LanguageTest.run();
         System.out.println(Check.passed + " passed, " + Check.failed + " failed");

@@ -22,7 +22,7 @@ final class Check {
     }
 
     static void refused(String what, SparrowRace race, Class<? extends RuntimeException> due, Act act) {
-        String before = Looks.whole(race);
+        long before = race.digest();
         Object thrown = null;
         try {
             act.run();
@@ -30,7 +30,7 @@ final class Check {
             thrown = e.getClass();
         }
         due(what + " throws", thrown, due);
-        due(what + " changes nothing", Looks.whole(race), before);
+        due(what + " changes nothing", race.digest(), before);
     }
 
     static void noBird(String what, SparrowRace race, Act act) {

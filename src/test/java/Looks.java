@@ -1,6 +1,6 @@
 import java.util.function.Supplier;
 
-/** What can be seen of a race through its face, and the digest as the document tells it. */
+/** What can be seen of a race through its face. */
 final class Looks {
     private Looks() {
     }
@@ -10,14 +10,6 @@ final class Looks {
             return call.get();
         } catch (IllegalStateException e) {
             return "-";
-        }
-    }
-
-    private static int or0(Supplier<Integer> call, int more) {
-        try {
-            return call.get() + more;
-        } catch (IllegalStateException | IndexOutOfBoundsException e) {
-            return 0;
         }
     }
 
@@ -51,48 +43,5 @@ final class Looks {
     /** The digest tells of the buffer, of the slots and of the saved states as well. */
     static String whole(SparrowRace r) {
         return state(r) + "\n" + r.savedStates() + " " + r.firstError() + " " + r.digest();
-    }
-
-    static long digest(SparrowRace r, boolean slot0, boolean slot1, String buffer) {
-        long h = 4637;
-        h = 31 * h + r.sparrows();
-        for (int i = 0; i < r.sparrows(); i++) {
-            int b = i;
-            int[] values = {r.flown(b), r.lapsOf(b), r.speedOf(b), r.strengthOf(b), r.wearOf(b), r.laneOf(b),
-                r.stateOf(b), r.paceOf(b), or0(() -> r.partnerOf(b), 1), r.isCalledIn(b) ? 1 : 0,
-                r.placeByCounting(b), r.gapAhead(b), or0(() -> r.isDrafting(b) ? 1 : 0, 0), r.whereIs(b),
-                or0(() -> r.allowance(b), 0), or0(() -> r.timeOf(b), 0), or0(() -> r.wouldFly(b, 30), 0)};
-            for (int v : values) {
-                h = 31 * h + v;
-            }
-        }
-        for (int i = 0; i < r.sparrows(); i++) {
-            h = 31 * h + r.birdByOrder(i);
-        }
-        for (int i = 0; i < 4; i++) {
-            h = 31 * h + r.limitOf(i);
-        }
-        h = 31 * h + or0(r::wouldWin, 1);
-        h = 31 * h + or0(r::secondsToNext, 0);
-        h = 31 * h + or0(() -> r.bestPace(0), 0);
-        h = 31 * h + (r.isRacing() ? 1 : 0);
-        h = 31 * h + r.seconds();
-        h = 31 * h + r.arrived();
-        for (int i = 0; i < r.arrived(); i++) {
-            h = 31 * h + r.arrivedAt(i);
-        }
-        int[] accounts = {r.flownByBirds(), r.flownByAccount(), r.drafts(), r.changes(), r.rests(), r.races(),
-            r.winsInPairs(), r.savedStates()};
-        for (int v : accounts) {
-            h = 31 * h + v;
-        }
-        h = 31 * h + Double.doubleToLongBits(r.meanFlown());
-        h = 31 * h + (slot0 ? 1 : 0);
-        h = 31 * h + (slot1 ? 1 : 0);
-        h = 31 * h + buffer.length();
-        for (char c : buffer.toCharArray()) {
-            h = 31 * h + c;
-        }
-        return h;
     }
 }

@@ -4,6 +4,7 @@ import java.util.Arrays;
 import java.util.Comparator;
 import java.util.Deque;
 import java.util.List;
+import java.util.function.IntSupplier;
 import java.util.regex.Matcher;
 import java.util.regex.Pattern;
 
@@ -64,14 +65,14 @@ public final class PlainRace {
         }
 
         Bird ahead(Bird b, int lane) {
-            for (int feet = 1; feet <= 400; feet++) {
-                for (Bird o : birds) {
-                    if (o != b && o.state == 1 && o.lane == lane && (b.flown + feet) % 400 == o.flown % 400) {
-                        return o;
-                    }
+            Bird next = null;
+            for (int i = birds.size() - 1; i >= 0; i--) {
+                Bird o = birds.get(i);
+                if (o != b && o.state == 1 && o.lane == lane && (next == null || gap(b, o) <= gap(b, next))) {
+                    next = o;
                 }
             }
-            return null;
+            return next;
         }
 
         int gap(Bird b, Bird o) {
@@ -579,11 +580,44 @@ public final class PlainRace {
         return world.birds.isEmpty() ? 0.0 : (double) flownByBirds() / world.birds.size();
     }
 
-    boolean hasKept(int slot) {
-        return slots[slot] != null;
+    private static int or0(IntSupplier call) {
+        try {
+            return call.getAsInt();
+        } catch (IllegalStateException | IndexOutOfBoundsException e) {
+            return 0;
+        }
     }
 
-    String text() {
-        return buffer;
+    private void tellSparrow(List<Integer> values, int b) {
+        values.addAll(List.of(flown(b), lapsOf(b), speedOf(b), strengthOf(b), wearOf(b), laneOf(b)));
+        values.addAll(List.of(stateOf(b), paceOf(b), or0(() -> partnerOf(b) + 1), isCalledIn(b) ? 1 : 0));
+        values.addAll(List.of(placeByCounting(b), gapAhead(b), or0(() -> isDrafting(b) ? 1 : 0), whereIs(b)));
+        values.addAll(List.of(or0(() -> allowance(b)), or0(() -> timeOf(b)), or0(() -> wouldFly(b, 30))));
+    }
+
+    private static long hash(long hash, List<Integer> values) {
+        for (int value : values) {
+            hash = 31 * hash + value;
+        }
+        return hash;
+    }
+
+    public long digest() {
+        List<Integer> values = new ArrayList<>(List.of(sparrows()));
+        for (int b = 0; b < sparrows(); b++) {
+            tellSparrow(values, b);
+        }
+        world.byPlace().forEach(b -> values.add(b.number));
+        Arrays.stream(world.limits).forEach(values::add);
+        values.addAll(List.of(or0(() -> wouldWin() + 1), or0(this::secondsToNext), or0(() -> bestPace(0))));
+        values.addAll(List.of(isRacing() ? 1 : 0, seconds(), arrived()));
+        values.addAll(world.arrived);
+        values.addAll(List.of(flownByBirds(), flownByAccount(), drafts(), changes(), rests(), races()));
+        values.addAll(List.of(winsInPairs(), savedStates()));
+        long hash = 31 * hash(4637, values) + Double.doubleToLongBits(meanFlown());
+        List<Integer> rest = new ArrayList<>(List.of(slots[0] == null ? 0 : 1, slots[1] == null ? 0 : 1));
+        rest.add(buffer.length());
+        buffer.chars().forEach(rest::add);
+        return hash(hash, rest);
     }
 }

@@ -89,15 +89,17 @@ final class TextEdges {
         {"n0;", "pnct"}, {"p0=10;", "pnct"}, {"c0=8;", "pnct"}, {"t200;", "pnct"}, {"t1;n0;c", "0123"},
         {"p0=40;p7=4", "0"}, {"c1=8;p1=", "1234"}, {"t2;t20", "0;"}, {"n7;c0=", "123489"}, {"t200;n", "01234567"}};
 
+    private static void firstErrorIs(String text, int due) {
+        SparrowRace race = new SparrowRace();
+        Races.type(race, text);
+        Check.due("P12 firstError of " + text, race.firstError(), due);
+    }
+
     private static void everySignBehindEveryBeginning() {
         for (String[] row : BEHIND) {
-            SparrowRace race = new SparrowRace();
-            Races.type(race, row[0]);
-            Check.due("P12 " + row[0] + " is no error", race.firstError(), row[0].length());
+            firstErrorIs(row[0], row[0].length());
             for (char sign = 33; sign <= 126; sign++) {
-                Races.type(race, row[0] + sign);
-                int due = row[1].indexOf(sign) >= 0 ? row[0].length() + 1 : row[0].length();
-                Check.due("P12 firstError of " + row[0] + sign, race.firstError(), due);
+                firstErrorIs(row[0] + sign, row[0].length() + (row[1].indexOf(sign) >= 0 ? 1 : 0));
             }
         }
     }

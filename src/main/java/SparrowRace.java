@@ -189,7 +189,7 @@ public final class SparrowRace {
         return saved.count;
     }
 
-    // ---- sparrows as they are
+    // ---- sparrows as they are; nothing is changed
 
     public int sparrows() {
         return now.count;
@@ -244,7 +244,7 @@ public final class SparrowRace {
         return now.limitAt(corner);
     }
 
-    // ---- places
+    // ---- places; nothing is changed
 
     public int placeByCounting(int bird) throws IndexOutOfBoundsException {
         return now.countAheadOf(known(bird));
@@ -276,7 +276,7 @@ public final class SparrowRace {
         return now.allowedFeet(knownToFly(bird));
     }
 
-    // ---- what would be
+    // ---- what would be; nothing is changed
 
     public int wouldFly(int bird, int seconds)
             throws IndexOutOfBoundsException, IllegalArgumentException, IllegalStateException {
@@ -316,7 +316,7 @@ public final class SparrowRace {
         return foretellBestPace(sparrow);
     }
 
-    // ---- accounts
+    // ---- accounts; nothing is changed
 
     public boolean isRacing() {
         return now.racing;

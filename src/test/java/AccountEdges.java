@@ -25,6 +25,8 @@ final class AccountEdges {
         digestOfNewOne();
         digestWhereItThrows();
         digestOfEachValue();
+        digestOfOneThatRests();
+        digestOfOneThatHasArrived();
     }
 
     private static void isRacing() {
@@ -173,5 +175,27 @@ final class AccountEdges {
             12, 0, 12, 995, 0, 0, 1, 12, 0, 0, 2, 8, 1, 0, 12, 0, race.wouldFly(2, 30),
             1, 0, 2, 20, 20, 20, 20, race.wouldWin() + 1, race.secondsToNext(), best,
             1, 1, 0, 61, 61, 0, 0, 0, 1, 0, 6, Double.doubleToLongBits(61 / 3.0), 0, 0, 0));
+    }
+
+    /** Sparrow 0 rests 7 feet behind 1, which flies in its lane: it is in no draft, and may not fly. */
+    private static void digestOfOneThatRests() {
+        SparrowRace race = Script.run(Script.calls("enter(20,999,0) enter(13,999,0) begin() callIn(0) pass(15) setPace(1,12)"
+            + " pass(16) setPace(1,20) pass(1)"));
+        Check.due("P54 one that rests has a best pace", race.bestPace(0) >= 10, true);
+        Check.due("P54 one that rests", race.digest(), hash(2,
+            400, 1, 0, 999, 0, 0, 2, 20, 0, 0, 1, 7, 0, 0, 0, 0, race.wouldFly(0, 30),
+            407, 1, 20, race.strengthOf(1), 1, 0, 1, 20, 0, 0, 0, 0, 0, 0, 20, 0, race.wouldFly(1, 30),
+            1, 0, 20, 20, 20, 20, race.wouldWin() + 1, race.secondsToNext(), race.bestPace(0),
+            1, 32, 0, 807, 807, 0, 0, 1, 1, 0, 6, Double.doubleToLongBits(403.5), 0, 0, 0));
+    }
+
+    /** None would win any more, but the next arrival is still to come. */
+    private static void digestOfOneThatHasArrived() {
+        SparrowRace race = Script.run(Script.calls(TWO_ARRIVE + "pass(21)"));
+        Check.due("P54 one that has arrived", race.digest(), hash(2,
+            400, 1, 10, 780, 21, 0, 3, 20, 0, 0, 0, 0, 0, 0, 0, 21, 400,
+            210, 0, 10, 936, 0, 1, 1, 10, 0, 0, 1, 0, 0, 2, 10, 0, 400,
+            0, 1, 20, 20, 20, 20, 0, 19, 10,
+            1, 21, 1, 0, 610, 610, 0, 0, 0, 1, 0, 5, Double.doubleToLongBits(305.0), 0, 0, 0));
     }
 }

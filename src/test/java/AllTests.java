@@ -18,6 +18,7 @@ public final class AllTests {
         LookEdges.run();
         ForesightEdges.run();
         AccountEdges.run();
+        StayEdges.run();
         ModelTest.run();
         LanguageTest.run();
         System.out.println(Check.passed + " passed, " + Check.failed + " failed");

@@ -14,12 +14,61 @@ import java.util.regex.Pattern;
 
 /** Those rules of LANGUAGE.md that a search of the text or a look at the class can tell. */
 final class LanguageTest {
-    /** The document's face: each method with how many arguments it takes. */
-    private static final String FACE = "enter3 setPace2 callIn1 pair2 setLimit2 setLaps1 begin0 pass1 append1 clearBuffer0"
-        + " firstError0 follow0 keep1 goBack1 undo0 savedStates0 sparrows0 flown1 lapsOf1 speedOf1 strengthOf1 wearOf1"
-        + " laneOf1 stateOf1 paceOf1 partnerOf1 isCalledIn1 limitOf1 placeByCounting1 birdByOrder1 gapAhead1 isDrafting1"
-        + " whereIs1 allowance1 wouldFly2 wouldWin0 secondsToNext0 flownWithPace2 bestPace1 isRacing0 seconds0 arrived0"
-        + " arrivedAt1 timeOf1 flownByBirds0 flownByAccount0 drafts0 changes0 rests0 races0 winsInPairs0 meanFlown0 digest0";
+    /** The document's face: each method with what it answers, takes and throws, in the order of its throws clause. */
+    private static final String FACE = """
+        int enter(int,int,int) IAE ISE
+        int setPace(int,int) IOOBE IAE
+        boolean callIn(int) IOOBE ISE
+        int pair(int,int) IOOBE IAE
+        int setLimit(int,int) IOOBE IAE
+        int setLaps(int) IAE ISE
+        int begin() ISE
+        int pass(int) IAE ISE
+        int append(int) IAE ISE
+        int clearBuffer()
+        int firstError()
+        int follow() IAE ISE
+        void keep(int) IAE
+        void goBack(int) IAE ISE
+        void undo() ISE
+        int savedStates()
+        int sparrows()
+        int flown(int) IOOBE
+        int lapsOf(int) IOOBE
+        int speedOf(int) IOOBE
+        int strengthOf(int) IOOBE
+        int wearOf(int) IOOBE
+        int laneOf(int) IOOBE
+        int stateOf(int) IOOBE
+        int paceOf(int) IOOBE
+        int partnerOf(int) IOOBE ISE
+        boolean isCalledIn(int) IOOBE
+        int limitOf(int) IOOBE
+        int placeByCounting(int) IOOBE
+        int birdByOrder(int) IOOBE
+        int gapAhead(int) IOOBE
+        boolean isDrafting(int) IOOBE ISE
+        int whereIs(int) IOOBE
+        int allowance(int) IOOBE ISE
+        int wouldFly(int,int) IOOBE IAE ISE
+        int wouldWin() ISE
+        int secondsToNext() ISE
+        int flownWithPace(int,int) IOOBE IAE ISE
+        int bestPace(int) IOOBE ISE
+        boolean isRacing()
+        int seconds()
+        int arrived()
+        int arrivedAt(int) IOOBE
+        int timeOf(int) IOOBE ISE
+        int flownByBirds()
+        int flownByAccount()
+        int drafts()
+        int changes()
+        int rests()
+        int races()
+        int winsInPairs()
+        double meanFlown()
+        long digest()""";
 
     private LanguageTest() {
     }
@@ -30,6 +79,7 @@ final class LanguageTest {
         face();
         members();
         classesInside();
+        shortMethods();
     }
 
     private static String code() throws Exception {
@@ -65,14 +115,30 @@ final class LanguageTest {
         Check.due("what the machine throws is caught", caught.find(), false);
     }
 
+    /** A method as the face tells it. */
+    private static String told(Method m) {
+        StringBuilder told = new StringBuilder(m.getReturnType().getName()).append(' ').append(m.getName()).append('(');
+        for (Class<?> type : m.getParameterTypes()) {
+            told.append(told.charAt(told.length() - 1) == '(' ? "" : ",").append(type.getName());
+        }
+        told.append(')');
+        for (Class<?> thrown : m.getExceptionTypes()) {
+            told.append(' ').append(thrown.getSimpleName().replaceAll("[^A-Z]", ""));
+        }
+        return told.toString();
+    }
+
     private static void face() {
+        List<String> due = Arrays.asList(FACE.split("\n"));
         List<String> got = new ArrayList<>();
         for (Method m : SparrowRace.class.getDeclaredMethods()) {
             if (Modifier.isPublic(m.getModifiers())) {
-                got.add(m.getName() + m.getParameterCount());
+                got.add(told(m));
+                Check.due("the face has " + told(m), due.contains(told(m)), true);
+                Check.due(m.getName() + " is of the object", Modifier.isStatic(m.getModifiers()), false);
             }
         }
-        Check.due("the face", new TreeSet<>(got), new TreeSet<>(Arrays.asList(FACE.split(" "))));
+        Check.due("the face", new TreeSet<>(got), new TreeSet<>(due));
         Check.due("each method of the face once", got.size(), 53);
         int made = SparrowRace.class.getModifiers();
         Check.due("public and final", Modifier.isPublic(made) && Modifier.isFinal(made), true);
@@ -83,8 +149,8 @@ final class LanguageTest {
 
     private static void members() {
         Set<String> face = new TreeSet<>();
-        for (String method : FACE.split(" ")) {
-            face.add(method.replaceAll("[0-9]", ""));
+        for (String method : FACE.split("\n")) {
+            face.add(method.replaceAll("^\\w+ |\\(.*", ""));
         }
         for (Method m : SparrowRace.class.getDeclaredMethods()) {
             if (!Modifier.isPublic(m.getModifiers())) {
@@ -100,8 +166,19 @@ final class LanguageTest {
         }
     }
 
+    private static void fewFields(Class<?> made) {
+        int fields = 0;
+        for (Field f : made.getDeclaredFields()) {
+            fields += Modifier.isStatic(f.getModifiers()) ? 0 : 1;
+        }
+        Check.due(made.getName() + " has some twenty fields at most", fields <= 20, true);
+    }
+
     private static void classesInside() {
+        Check.due("some twelve classes at most", SparrowRace.class.getDeclaredClasses().length < 12, true);
+        fewFields(SparrowRace.class);
         for (Class<?> inside : SparrowRace.class.getDeclaredClasses()) {
+            fewFields(inside);
             int made = inside.getModifiers();
             Check.due(inside.getName() + " is private or of the package",
                 Modifier.isPublic(made) || Modifier.isProtected(made), false);
@@ -110,5 +187,16 @@ final class LanguageTest {
                     Modifier.isFinal(f.getModifiers()) || !Modifier.isStatic(f.getModifiers()), true);
             }
         }
+    }
+
+    private static void shortMethods() throws Exception {
+        int lines = 0;
+        int longest = 0;
+        for (String line : code().split("\n")) {
+            boolean begins = line.matches(" {4}( {4})?(public|private|[A-Za-z\\[\\]]+) .*\\(.*") && !line.contains(" class ");
+            lines = begins ? 1 : lines + 1;
+            longest = Math.max(longest, line.matches(" {4}( {4})?\\}") ? lines : 0);
+        }
+        Check.due("the longest method has " + longest + " lines", longest > 10 && longest <= 60, true);
     }
 }

@@ -22,6 +22,7 @@ final class SecondEdges {
         noDraftAtTheSameSpot();
         lowestNumberAhead();
         asNearAsOneFoot();
+        asNearWithItsDraft();
         onStraightsAlone();
         threeFeetAheadOrBehind(0);
         threeFeetAheadOrBehind(1);
@@ -231,6 +232,25 @@ final class SecondEdges {
             "laneOf(1)=0 changes()=0");
     }
 
+    /**
+     * After 40 seconds sparrow 0 has flown 625 feet, and has no strength for more than 4 in a second;
+     * sparrow 1 has flown 600, and is worn by 40. So it flies on from 4 or 5 feet behind 0.
+     */
+    private static String wornBehindWeakOne(int pace) {
+        return "enter(40,275,0) enter(15,999,0) setLaps(9) " + WIDE + " begin() pass(1) setPace(0,15) pass(9) setPace(0,16)"
+            + " setPace(1,16) pass(10) setPace(0,17) setPace(1,17) pass(10) setPace(0,18) setPace(1,18) pass(10) flown(0)=625"
+            + " flown(1)=600 strengthOf(0)=0 setPace(1," + pace + ") pass(1) flown(0)=629 setPace(1,10) allowance(1)=6 ";
+    }
+
+    private static void asNearWithItsDraft() {
+        Edge.due("as near as 1 foot with the foot of its draft", wornBehindWeakOne(29), "flown(1)=625 pass(1) flown(0)=633",
+            "flown(1)=632 laneOf(1)=1 drafts()=1 changes()=1");
+        Edge.due("as near as 1 foot with the 2 feet of its draft", wornBehindWeakOne(29), "pair(0,1) pass(1) flown(0)=633",
+            "flown(1)=633 laneOf(1)=1 drafts()=1 changes()=1");
+        Edge.due("9 feet behind, without a draft", wornBehindWeakOne(28), "flown(1)=624 pass(1) flown(0)=633 flown(1)=630",
+            "laneOf(1)=0 drafts()=0 changes()=0");
+    }
+
     /** Sparrow 0 flies 40, 80, 84, 88 and so on; in the second 8 it is at 104, in the second 9 at 108. */
     private static void onStraightsAlone() {
         String slow = "enter(40,100,0) enter(20,999,0) setLimit(0,40) begin() ";
@@ -263,6 +283,7 @@ final class SecondEdges {
             Edge.due("3 feet or less, " + (first - 14), beside(lane, 999, first), stays);
         }
         Edge.due("4 feet ahead, and 1 foot behind that one", beside(lane, 999, 18), changes + 607);
+        Edge.due("in no draft of the lane to which it changes", beside(lane, 999, 18), "drafts()=0 pass(1) speedOf(0)=3 drafts()=0");
         Edge.due("5 feet ahead, and 1 foot behind that one", beside(lane, 999, 19), changes + 608);
         Edge.due("1 foot less, for 1 foot behind", beside(lane, 999, 34), changes + 623);
         Edge.due("as far as it may, 1 foot behind", beside(lane, 999, 35), changes + 624);
@@ -370,6 +391,8 @@ final class SecondEdges {
             "flown(1)=15 wearOf(1)=1");
         Edge.due("14 feet behind another one", "enter(15,999,0) enter(40,999,0) enter(10,999,1) begin() pass(1)",
             "flown(1)=14 wearOf(1)=0");
+        Edge.due("14 feet and 1 for its draft", behindSlowOne(25), "wearOf(1)=5 setPace(1,14) pass(1) flown(1)=119 wearOf(1)=6");
+        Edge.due("13 feet and 1 for its draft", behindSlowOne(25), "setPace(1,13) pass(1) flown(1)=118 wearOf(1)=5");
     }
 
     private static void wearAtMost() {
